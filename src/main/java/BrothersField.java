@@ -1127,6 +1127,16 @@ public final class BrothersField {
             }
         }
 
+        /** Without a lane an heir's faults hang on his own set alone. */
+        boolean isContent(int heir, long set) {
+            for (int fault = 2; fault <= 5; fault++) {
+                if (hasFault(fault, heir, set, 0)) {
+                    return false;
+                }
+            }
+            return true;
+        }
+
         /** The squares of which an heir must have one to come to the road. */
         long reachOfRoad(long lane) {
             long side = roadSide();
@@ -1434,6 +1444,10 @@ public final class BrothersField {
             listCuts(field, false, true);
             Field.empty(trial);
             for (int one = 0; one < count; one++) {
+                // no other cut helps where the first heir has a fault already
+                if (!field.isContent(0, firsts[one])) {
+                    continue;
+                }
                 for (int other = 0; other < count; other++) {
                     trial[0] = firsts[one];
                     trial[1] = firsts[other] & ~firsts[one];
