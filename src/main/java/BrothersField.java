@@ -1340,6 +1340,7 @@ public final class BrothersField {
     private static final class Search {
         /** More than any field has. */
         private static final int NO_HEDGE = 1000;
+        private static final int NO_WORTH = 1000000;
 
         int bestCode = NONE;
         int fitting = 0;
@@ -1463,7 +1464,7 @@ public final class BrothersField {
             forget(NO_HEDGE);
             listCuts(field, true, false);
             long fairest = 0;
-            int least = Integer.MAX_VALUE;
+            int least = NO_WORTH;
             for (int i = 0; i < count; i++) {
                 long second = field.all & ~firsts[i];
                 int apart = Math.abs(field.worthOf(heir, firsts[i]) - field.worthOf(heir, second));

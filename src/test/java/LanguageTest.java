@@ -8,7 +8,7 @@ import java.util.regex.Pattern;
 public final class LanguageTest {
     private static final String[] BANNED = {
         "^\\s*(import|package)\\b", "->", "::", "@", "\\bstatic\\s*\\{", "\\bfinally\\b", "\\bsynchronized\\b", "\\bassert\\b",
-        "\\bcatch\\b", "\\bthrow\\b", "\\bSystem\\.(?!arraycopy\\()", "\\bMath\\.\\w*Exact\\b", "\\b(equals|hashCode|toString)\\s*\\(",
+        "\\bcatch\\b", "\\bthrow\\b", "\\bSystem\\.(?!arraycopy\\()", "\\bMath\\.\\w*Exact\\b", "\\b(Integer|Long|Math)\\.[A-Z]", "\\b(equals|hashCode|toString)\\s*\\(",
         "\"\\s*\\+|\\+\\s*\"", "\\b(Object|HashMap|Map|Set|Random|Thread|Runnable|Function|Optional|Stream)\\b",
         "\\b(double|float)\\b", "\\bwhile\\s*\\(\\s*true", "for\\s*\\(\\s*;\\s*;", "[^\\x00-\\x7F]"};
 

@@ -9,36 +9,10 @@ public final class PromisesTest {
         Due.is(promise + ": " + call, got, want);
     }
 
-    private static void write(BrothersField x, int s, int sort, String text) {
-        x.row(s, sort, text.length());
-        for (int i = 0; i < text.length(); i++) {
-            x.set(s, i, text.charAt(i));
-        }
-    }
-
-    private static void fill(BrothersField x, int s, int sort, long... values) {
-        x.row(s, sort, values.length);
-        for (int i = 0; i < values.length; i++) {
-            x.set(s, i, values[i]);
-        }
-    }
-
     private static void refusals(BrothersField x, int... counts) {
         for (int i = 0; i < 7; i++) {
             due("status(" + (11 + i) + ")", x.status(11 + i), counts[i]);
         }
-    }
-
-    /** Heirs with a share of 1 each, to whom all is worth nothing. */
-    private static BrothersField contented(int heirs) {
-        BrothersField x = new BrothersField();
-        for (int p = 0; p < heirs; p++) {
-            x.heir(1);
-            for (int v = 0; v < 6; v++) {
-                x.worths(p, v, 0);
-            }
-        }
-        return x;
     }
 
     private static BrothersField twoByTwo(int heirs) {
@@ -120,7 +94,7 @@ public final class PromisesTest {
     private static void copy() {
         promise = "4";
         BrothersField x = new BrothersField();
-        fill(x, 0, 1, 1, 2, 3, 4, 5);
+        Made.numbers(x, 0, 1, 1, 2, 3, 4, 5);
         due("up over itself", x.copy(0, 0, 0, 1, 4), 1);
         for (int i = 0; i < 5; i++) {
             due("element", x.element(0, i), new int[] {1, 1, 2, 3, 4}[i]);
@@ -160,7 +134,7 @@ public final class PromisesTest {
     private static void element() {
         promise = "5";
         BrothersField x = new BrothersField();
-        fill(x, 0, 3, 7, 1L << 60);
+        Made.numbers(x, 0, 3, 7, 1L << 60);
         x.cut(1, 6888);
         due("one", x.element(0, 1), 1L << 60);
         long[] none = {x.element(0, 2), x.element(0, -1), x.element(1, 0), x.element(2, 0), x.element(8, 0),
@@ -277,7 +251,7 @@ public final class PromisesTest {
         x.soil(2, 5);
         x.heir(3);
         x.own(255, 0);
-        write(x, 0, 0, "size 8 2;soil 4 14 15;soil 3 15 15;road 3;well 9;oak 08;small 20;heir 9 0 01 99 4 5 6");
+        Made.text(x, 0, 0, "size 8 2;soil 4 14 15;soil 3 15 15;road 3;well 9;oak 08;small 20;heir 9 0 01 99 4 5 6");
         due("field", x.field(0), 8);
         int[] status = {8, 2, 2, 3, 9, 8, 20, 0};
         for (int i = 0; i < status.length; i++) {
@@ -294,13 +268,13 @@ public final class PromisesTest {
         due("the heir before", x.heirOf(0, 0), 3);
         x.own(1, 1);
         x.fond(1, true);
-        write(x, 1, 3, "road 2");
+        Made.text(x, 1, 3, "road 2");
         x.set(1, 0, 'r' + (5L << 32));
         due("told over what is there", x.field(1), 1);
         due("road", x.status(3), 2);
         due("owner", x.owner(0), 1);
         due("well", x.status(4), 9);
-        write(x, 1, 1, "size 8 2");
+        Made.text(x, 1, 1, "size 8 2");
         due("same size", x.field(1), 1);
         due("owned by nobody", x.owner(0), -1);
         due("no well", x.status(4), -1);
@@ -308,7 +282,7 @@ public final class PromisesTest {
         due("small", x.status(6), 20);
         due("fond", x.heirOf(1, 1), 1);
         x.own(3, 1);
-        write(x, 1, 0, "small 3;size 2 2;heir 1 1 1 1 1 1 1;road 4");
+        Made.text(x, 1, 0, "small 3;size 2 2;heir 1 1 1 1 1 1 1;road 4");
         due("or nothing", x.field(1), -6);
         due("small", x.status(6), 20);
         due("w", x.status(0), 8);
@@ -338,7 +312,7 @@ public final class PromisesTest {
             16, 19, 18, 14, 20,
             0, 0, 17, 5, 4, 5, 9, 4, 12};
         for (int i = 0; i < texts.length; i++) {
-            write(x, 0, i % 4, texts[i]);
+            Made.text(x, 0, i % 4, texts[i]);
             due("field(" + texts[i] + ")", x.field(0), -6);
             due("fault of " + texts[i], x.fault(), faults[i]);
             if (i % 10 == 9) {
@@ -347,22 +321,22 @@ public final class PromisesTest {
             }
         }
         x = new BrothersField();
-        write(x, 0, 0, "heir 1 1 1 1 1 1 1;heir 1 1 1 1 1 1 1;heir 1 1 1 1 1 1 1;heir 1 1 1 1 1 1 1");
+        Made.text(x, 0, 0, "heir 1 1 1 1 1 1 1;heir 1 1 1 1 1 1 1;heir 1 1 1 1 1 1 1;heir 1 1 1 1 1 1 1");
         due("four heirs", x.field(0), 4);
         due("no fault", x.fault(), -1);
-        write(x, 0, 0, "road 1;heir 1 1 1 1 1 1 1;road 2;heir 1 1 1 1 1 1 1");
+        Made.text(x, 0, 0, "road 1;heir 1 1 1 1 1 1 1;road 2;heir 1 1 1 1 1 1 1");
         due("six heirs", x.field(0), -6);
         due("the word of the sixth", x.fault(), 33);
         due("four heirs still", x.status(2), 4);
         due("that of the latest that came to a row", x.field(5), -3);
         due("fault", x.fault(), 33);
-        fill(x, 1, 0, 'r', 'o', 'a', 'd', -' ', '1');
+        Made.numbers(x, 1, 0, 'r', 'o', 'a', 'd', -' ', '1');
         due("no letter", x.field(1), -6);
         due("fault", x.fault(), 4);
-        fill(x, 1, 3, 'r', 'o', 'a', 'd', ' ' + (1L << 31), '1');
+        Made.numbers(x, 1, 3, 'r', 'o', 'a', 'd', ' ' + (1L << 31), '1');
         due("no letter as ints", x.field(1), -6);
         due("fault", x.fault(), 4);
-        write(x, 1, 0, "road 1");
+        Made.text(x, 1, 0, "road 1");
         due("field", x.field(1), 1);
         due("none", x.fault(), -1);
     }
@@ -573,13 +547,13 @@ public final class PromisesTest {
         x.heir(1);
         x.heir(1);
         x.own(63, 1);
-        fill(x, 0, 3, 1, 9, 2, 0 + (1L << 32), -1);
+        Made.numbers(x, 0, 3, 1, 9, 2, 0 + (1L << 32), -1);
         due("owners", x.owners(0), 2);
         int[] owners = {1, 9, -1, 0, -1, -1};
         for (int s = 0; s < 6; s++) {
             due("owner(" + s + ")", x.owner(s), owners[s]);
         }
-        fill(x, 0, 0, 0, 1, 0, 1, 0, 1, 0, 1, 1, 1);
+        Made.numbers(x, 0, 0, 0, 1, 0, 1, 0, 1, 0, 1, 1, 1);
         due("longer than the field", x.owners(0), 6);
         due("piece", x.piece(1), 0b101010);
         x.row(0, 0, 0);
@@ -625,7 +599,7 @@ public final class PromisesTest {
         verdict(x, "nobody", 1, 0);
         x.own(65535, 9);
         verdict(x, "all the lane's", 0, -1);
-        x = contented(2);
+        x = Made.contented(4, 4, 2);
         x.own(0x3333, 0);
         x.own(0xCCC4, 1);
         verdict(x, "a square is nobody's", 1, 3);
@@ -649,7 +623,7 @@ public final class PromisesTest {
     }
 
     private static void faultsOfTheRoad() {
-        BrothersField x = contented(2);
+        BrothersField x = Made.contented(4, 4, 2);
         x.own(0x00FF, 0);
         x.own(0xFF00, 1);
         int[] whose = {1, -1, 0, -1};
@@ -679,7 +653,7 @@ public final class PromisesTest {
     }
 
     private static void faultsOfTheWell() {
-        BrothersField x = contented(2);
+        BrothersField x = Made.contented(4, 4, 2);
         x.own(0x1111, 0);
         x.own(0xEEEE, 1);
         x.place(1, 0);
@@ -702,7 +676,7 @@ public final class PromisesTest {
     }
 
     private static void faultsOfTheDue() {
-        BrothersField x = contented(2);
+        BrothersField x = Made.contented(4, 4, 2);
         x.own(0x1111, 0);
         x.own(0xEEEE, 1);
         x.worths(0, 0, 10);
@@ -817,7 +791,7 @@ public final class PromisesTest {
         best(x, 4100, 4200, 4);
         x.place(0, 0);
         best(x, -5, -5, -5);
-        x = contented(3);
+        x = Made.contented(4, 4, 3);
         x.size(2, 2);
         best(x, -5, -5, -5);
         x.size(3, 2);
@@ -833,7 +807,7 @@ public final class PromisesTest {
         due("another what", x.three(-1), -5);
         x.heir(1);
         due("four heirs", x.three(0), -5);
-        x = contented(3);
+        x = Made.contented(4, 4, 3);
         x.place(0, 3);
         x.soil(0, 1);
         x.worths(0, 1, 5);
@@ -921,7 +895,7 @@ public final class PromisesTest {
 
     private static void betterAndMend() {
         promise = "34 and 35";
-        BrothersField x = contented(2);
+        BrothersField x = Made.contented(4, 4, 2);
         x.own(0x3337, 0);
         x.own(0xCCC8, 1);
         due("hedge", x.hedge(), 5);
@@ -952,11 +926,11 @@ public final class PromisesTest {
             due("mend(" + n + ")", x.mend(n), -6);
         }
         refusals(x, 0, 0, 0, 0, 3, 5, 0);
-        x = contented(4);
+        x = Made.contented(4, 4, 4);
         x.own(0xFFFF, 3);
         x.own(0x000F, 0);
         due("no heir without a square", x.better(), -5);
-        x = contented(5);
+        x = Made.contented(4, 4, 5);
         x.own(0xFFFF, 9);
         x.own(0x0600, 0);
         x.own(0x0001, 1);
@@ -965,7 +939,7 @@ public final class PromisesTest {
         x.own(0x8000, 4);
         due("not faulty by the lane", x.faulty(), 0);
         due("nothing goes to the lane", x.better(), -5);
-        x = contented(3);
+        x = Made.contented(4, 4, 3);
         x.place(3, 0);
         x.size(3, 3);
         x.own(0b001001001, 0);
@@ -981,7 +955,7 @@ public final class PromisesTest {
         BrothersField x = new BrothersField();
         x.cut(0, 1200);
         x.cut(1, 3200);
-        fill(x, 2, 0, 0, 0, 7, 1, 0, 2, -1, 1);
+        Made.numbers(x, 2, 0, 0, 0, 7, 1, 0, 2, -1, 1);
         due("straight", x.fits(0, 2), 1);
         due("lane", x.fits(1, 2), 1);
         x.set(2, 2, 1);
@@ -990,9 +964,9 @@ public final class PromisesTest {
         x.set(2, 2, 0);
         due("straight", x.fits(0, 2), 0);
         due("lane is not first", x.fits(1, 2), 0);
-        fill(x, 2, 3, 1L << 32);
+        Made.numbers(x, 2, 3, 1L << 32);
         due("as ints", x.fits(0, 2), 1);
-        fill(x, 2, 3, 1 + (1L << 32));
+        Made.numbers(x, 2, 3, 1 + (1L << 32));
         due("as ints", x.fits(0, 2), 0);
         x.row(2, 0, 0);
         due("nothing told", x.fits(0, 2), 1);
@@ -1019,17 +993,17 @@ public final class PromisesTest {
         due("all cuts", x.old(0), 14);
         due("sure", x.sure(0, 0), 0);
         due("sure", x.sure(0, 1), 0);
-        fill(x, 0, 0, 0);
+        Made.numbers(x, 0, 0, 0);
         due("first corner", x.old(0), 11);
         due("sure", x.sure(0, 0), 1);
         due("sure", x.sure(0, 1), 0);
-        fill(x, 0, 0, 0, 5, 5, 1);
+        Made.numbers(x, 0, 0, 0, 5, 5, 1);
         due("two corners", x.old(0), 9);
         due("sure", x.sure(0, 0), 1);
         due("sure", x.sure(0, 1), 8);
-        fill(x, 0, 0, 1, 2, 2, 0);
+        Made.numbers(x, 0, 0, 1, 2, 2, 0);
         due("sure before all else", x.sure(0, 1), 3);
-        fill(x, 0, 0, 1, 0, 0, 0);
+        Made.numbers(x, 0, 0, 1, 0, 0, 0);
         due("sure of none", x.sure(0, 1), 0);
         due("none fits", x.old(0), 0);
         due("sure", x.sure(0, 0), 0);
@@ -1041,7 +1015,7 @@ public final class PromisesTest {
         due("two by eight", x.old(0), 1 + 7 + 15 + 63);
         x.size(8, 2);
         due("eight by two", x.old(0), 7 + 1 + 15 + 81);
-        fill(x, 0, 2, 1, 5, 1);
+        Made.numbers(x, 0, 2, 1, 5, 1);
         due("bent alone", x.old(0), 9);
         due("sure of the whole row", x.sure(0, 1), 0xFF);
         x.cut(1, 0);
@@ -1068,11 +1042,11 @@ public final class PromisesTest {
         x.own(0x00F, 0);
         x.own(0x0F0, 1);
         due("missing ones", x.judge(0), 0);
-        fill(x, 0, 3, 40, 40 + (7L << 32));
+        Made.numbers(x, 0, 3, 40, 40 + (7L << 32));
         due("all are", x.judge(0), -1);
         x.set(0, 1, 41);
         due("the second isn't", x.judge(0), 1);
-        fill(x, 0, 3, 40, 40, 1);
+        Made.numbers(x, 0, 3, 40, 40, 1);
         due("the third isn't", x.judge(0), 2);
         x.cut(1, 0);
         due("no shelf", x.judge(8), -11);
@@ -1168,7 +1142,7 @@ public final class PromisesTest {
         x.size(6, 6);
         x.row(0, 1, 4);
         x.cut(1, 1100);
-        write(x, 2, 0, "x");
+        Made.text(x, 2, 0, "x");
         x.field(2);
         x.act(1, 0, 0);
         due("restore", x.restore(), 2);
