@@ -384,9 +384,9 @@ public final class BestTermsTest {
         }
     }
 
-    /** The first column of 3 by 3 would be the fairest part of 2 by 2, if it were still among the cuts. */
-    private static void choosingAnew() {
-        sentence = "CHOOSE: a, b, c as they matter";
+    /** On each board a cut of the board before would be the best, if it were still among the cuts. */
+    private static void searchedAnew() {
+        sentence = "CHOOSE, TWO, THREE: a, b, c as they matter on the board there is";
         BrothersField x = Made.board(3, 3, 1, 1);
         x.row(0, 0, 0);
         x.old(0);
@@ -397,6 +397,18 @@ public final class BestTermsTest {
             x.worths(0, v, new int[] {10, 13, 17, 20}[v]);
         }
         choose(x, 0, 1, 1100, 0, 20, 33);
+        x = Made.board(5, 2, 7, 1);
+        two(x, "ten squares can't be parted 7 to 1", -5, -5, -5);
+        x.size(2, 4);
+        wantsOnly(x, 1, 4);
+        x.place(0, 3);
+        two(x, "heir 1 can't have 4 alone", -5, -5, -5);
+        x = Made.contented(4, 5, 3);
+        three(x, "the board before", 5110, 5210, 4);
+        x.size(2, 3);
+        wantsOnly(x, 1, 4);
+        x.place(0, 3);
+        three(x, "heir 1 can't have 4, and heir 2 be at the road", -5, -5, -5);
     }
 
     private static void mend() {
@@ -805,7 +817,7 @@ public final class BestTermsTest {
         evens();
         better();
         searchesApart();
-        choosingAnew();
+        searchedAnew();
         mend();
         old();
         fits();
