@@ -289,7 +289,7 @@ public final class BrothersField {
             return refuse(refusal);
         }
         Field.empty(laid);
-        for (int square = 0; now.isSquare(square); square++) {
+        for (int square = 0; square < now.squares(); square++) {
             int slot = heldRows[s].has(square) ? now.slotOf(heldRows[s].intAt(square)) : NONE;
             laid[slot == NONE ? NOBODY_SLOT : slot] |= now.only(square);
         }
@@ -360,7 +360,7 @@ public final class BrothersField {
         }
         int own = now.worthOf(heir, now.owned[heir]);
         int envied = 0;
-        for (int other = 0; other < now.heirs; other++) {
+        for (int other = 0; other < now.heirs && other < MOST_HEIRS; other++) {
             if (now.worthOf(heir, now.owned[other]) > own) {
                 envied |= 1 << other;
             }
@@ -431,7 +431,7 @@ public final class BrothersField {
         if (refusal != 0) {
             return refuseAs(refusal, refusal - 10);
         }
-        for (int heir = 0; heir < now.heirs; heir++) {
+        for (int heir = 0; heir < now.heirs && heir < MOST_HEIRS; heir++) {
             if (now.worthOf(heir, now.owned[heir]) != heldRows[s].intAt(heir)) {
                 return heir;
             }
@@ -1159,7 +1159,7 @@ public final class BrothersField {
         /** The squares of which a row tells a thing. */
         long toldBy(Row row, int thing) {
             long told = 0;
-            for (int square = 0; isSquare(square) && row.has(square); square++) {
+            for (int square = 0; square < squares() && square < row.size; square++) {
                 if (row.intAt(square) == thing) {
                     told |= only(square);
                 }
@@ -1480,8 +1480,8 @@ public final class BrothersField {
         /** 10 times the square and the heir who should have it for less hedge, or NONE. */
         int findChange(Field field) {
             forget(field.hedgeOf(field.owned));
-            for (int square = 0; field.isSquare(square); square++) {
-                for (int heir = 0; heir < field.heirs; heir++) {
+            for (int square = 0; square < field.squares(); square++) {
+                for (int heir = 0; heir < field.heirs && heir < MOST_HEIRS; heir++) {
                     if (mayChange(field, square, heir)) {
                         startFrom(field.owned);
                         Field.give(trial, field.only(square), heir);
